@@ -1809,7 +1809,8 @@ public final class BundleHouse {
             if (address < CODE_AT || place >= strip.count) {
                 return STOP_WILD;
             }
-            if (!reader.read(place)) {
+            // No START is a RET, and a RUN comes to STARTS alone.
+            if (!reader.read(place) || reader.found.op == RET) {
                 return STOP_BAD;
             }
             Instruction t = reader.found;

@@ -73,8 +73,12 @@ final class BoxTest {
         DUE.is("the RUN stays as it was", h.state(false, 3), 103);
         DUE.is("its DATA, too", h.data(false, 1), 2);
         h.run(1);
-        DUE.is("register 3", h.state(false, 3), 0);
-        DUE.is("data 1", h.data(false, 1), 0);
+        for (int k = 0; k < 8; k++) {
+            DUE.is("register " + k + " as at first", h.state(false, k), 0);
+        }
+        for (int a = 0; a < 1024; a++) {
+            DUE.is("data " + a + " as at first", h.data(false, a), 0);
+        }
         DUE.is("CODE stays", h.size(), 16);
     }
 
@@ -302,7 +306,7 @@ final class BoxTest {
     private static void input() {
         BundleHouse h = new BundleHouse();
         for (int k = 0; k < 50; k++) {
-            DUE.is("INPUT " + k, h.set(2, -77, k * 3), true);
+            DUE.is("INPUT " + k, h.set(2, -77, 1 + k * 3), true);
         }
         DUE.is("INPUT 50", h.set(2, 0, 1), false);
         h.set(0, 4, 900);
@@ -313,10 +317,10 @@ final class BoxTest {
         h.flow(1, 0, 0);
         h.build();
         h.run(5000);
-        DUE.is("all of the INPUT", h.state(false, 5), 3 * 49 * 50 / 2);
+        DUE.is("all of the INPUT", h.state(false, 5), 50 + 3 * 49 * 50 / 2);
         DUE.is("and more turns", h.state(false, 6) > 50, true);
         h.walk(5000);
-        DUE.is("all of the INPUT of a WALK", h.state(true, 5), 3 * 49 * 50 / 2);
+        DUE.is("all of the INPUT of a WALK", h.state(true, 5), 50 + 3 * 49 * 50 / 2);
         DUE.is("all as at first", h.set(3, 0, 0), true);
         DUE.is("INPUT again", h.set(2, 0, 8), true);
         h.set(0, 4, 900);

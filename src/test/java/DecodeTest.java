@@ -100,6 +100,9 @@ final class DecodeTest {
         DUE.is("CALL: BYTES", h.decoded(11, 0), 5);
         DUE.is("CALL: OP", h.decoded(11, 1), 26);
         DUE.is("CALL: FORM", h.decoded(11, 2), 8);
+        DUE.is("CALL: R", h.decoded(11, 3), 0);
+        DUE.is("CALL: X", h.decoded(11, 4), 0);
+        DUE.is("CALL: D", h.decoded(11, 5), 0);
         DUE.is("CALL: I", h.decoded(11, 6), 1);
         BundleHouse pairs = Houses.holding(Houses.with(Houses.filled(16, 144), 1, 131, 230, 240, 255, 230, 144, 144, 144, 144, 144, 131, 226, 240, 255, 210));
         int[][] want = {{4, 27, 6}, {14, 28, 2}};
@@ -191,6 +194,9 @@ final class DecodeTest {
         DUE.is("RET at no START", h.decoded(1, 1), 23);
         DUE.is("FORM of RET", h.decoded(1, 2), 0);
         DUE.is("BYTES of RET", h.decoded(1, 0), 1);
+        for (int what = 2; what <= 7; what++) {
+            DUE.is("RET: " + what, h.decoded(1, what), 0);
+        }
         DUE.is("MOV at no START", h.decoded(2, 1), 8);
         DUE.is("MOV at no START: 7", h.decoded(2, 7), 0);
         DUE.is("the next START", h.decoded(5, 7), 1);

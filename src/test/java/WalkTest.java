@@ -298,7 +298,28 @@ final class WalkTest {
             withReturn(h);
             DUE.is("GO by what is UNKNOWN", h.walk(50), 7);
             DUE.is("STEPS", h.state(true, 13), 2);
+            BundleHouse other = behindReturn();
+            other.set(0, 2, 0);
+            other.flow(sort, 2, 0);
+            withReturn(other);
+            DUE.is("GO by another one", other.walk(50), 2);
+            DUE.is("STEPS", other.state(true, 13), 4);
+            DUE.is("register 1 is UNKNOWN still", other.state(true, 17), 1);
         }
+        backToTheFirst();
+    }
+
+    /** A MARKED LABEL at the very beginning, by a register 1 that is known. */
+    private static void backToTheFirst() {
+        BundleHouse h = new BundleHouse();
+        h.set(0, 1, 256);
+        h.flow(0, 0, 1);
+        h.plain(17, 1, 3, 0, 0, 0);
+        h.flow(5, 1, 0);
+        h.build();
+        DUE.is("GO 1 to 256", h.walk(7), 0);
+        DUE.is("it went round", h.state(true, 3), 4);
+        DUE.is("it is at", h.state(true, 12), 257);
     }
 
     /** ITEMS: 0 GO, 1 LABEL 0, 2 INC 7, 3 MARKED LABEL 1, 4 INC 6, 5 CALL 0, 6 INC 5, 7 SERVICE, 8 GOSUB, 9 HALT. */
