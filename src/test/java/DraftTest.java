@@ -16,7 +16,7 @@ final class DraftTest {
     }
 
     private static boolean takes(int op, int form, int r, int x, int d, int i) {
-        BundleHouse h = new BundleHouse();
+        House h = new House();
         int got = h.plain(op, form, r, x, d, i);
         if (got != 1 && got != -1) {
             DUE.is("plain", got, 1);
@@ -103,7 +103,7 @@ final class DraftTest {
     }
 
     private static boolean flows(int sort, int a, int b) {
-        BundleHouse h = new BundleHouse();
+        House h = new House();
         int got = h.flow(sort, a, b);
         if (got != 1 && got != -1) {
             DUE.is("flow", got, 1);
@@ -140,7 +140,7 @@ final class DraftTest {
     }
 
     private static void brim() {
-        BundleHouse h = new BundleHouse();
+        House h = new House();
         for (int k = 1; k <= 120; k++) {
             DUE.is("ITEM " + k, k % 2 == 0 ? h.plain(21, 0, 0, 0, 0, 0) : h.flow(7, 0, 0), k);
         }
@@ -151,7 +151,7 @@ final class DraftTest {
     }
 
     private static void clearing() {
-        BundleHouse h = new BundleHouse();
+        House h = new House();
         h.plain(21, 0, 0, 0, 0, 0);
         h.plain(22, 0, 0, 0, 0, 0);
         h.plain(23, 0, 0, 0, 0, 0);

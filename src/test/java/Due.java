@@ -1,11 +1,17 @@
 /** Counts the answers that are not the ones due, and ends a test with exit code 1 if there was one. */
 final class Due {
     private int wrong;
+    private String words = "";
+
+    /** What comes next tests these words of the document; an answer that isn't due is told with them. */
+    void sentence(String where, String itsWords) {
+        words = where + " '" + itsWords + "': ";
+    }
 
     void is(String call, long got, long want) {
         if (got != want) {
             wrong++;
-            System.out.println(call + " answered " + got + ", due is " + want);
+            System.out.println(words + call + " answered " + got + ", due is " + want);
         }
     }
 
@@ -23,7 +29,7 @@ final class Due {
         }
         if (!got.equals(want)) {
             wrong++;
-            System.out.println(call + " threw " + got + ", due is " + want);
+            System.out.println(words + call + " threw " + got + ", due is " + want);
         }
     }
 

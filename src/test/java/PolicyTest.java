@@ -15,8 +15,8 @@ final class PolicyTest {
     }
 
     private static void holds(String what, int fault, int place, int... bytes) {
-        BundleHouse h = new BundleHouse();
-        Houses.tape(h, bytes);
+        House h = new House();
+        h.tape(bytes);
         DUE.is(what + ": check", h.check(), fault);
         DUE.is(what + ": fault(0)", h.fault(0), fault);
         DUE.is(what + ": fault(1)", h.fault(1), place);
@@ -28,37 +28,37 @@ final class PolicyTest {
 
     /** The BYTES with NOPS behind them. */
     private static void holdsPadded(String what, int fault, int place, int... bytes) {
-        holds(what, fault, place, Houses.padded(Houses.NOP, bytes));
+        holds(what, fault, place, House.padded(House.NOP, bytes));
     }
 
     private static void sizes() {
         holds("none", 1, 0);
         for (int n : new int[] {1, 15, 17, 31, 1023, 1025, 1040, 1056, 1088}) {
-            holds("size " + n, 1, n, Houses.filled(n, Houses.NOP));
+            holds("size " + n, 1, n, House.filled(n, House.NOP));
         }
         for (int n : new int[] {16, 32, 48, 1008, 1024}) {
-            holds("size " + n, 0, -1, Houses.filled(n, Houses.NOP));
+            holds("size " + n, 0, -1, House.filled(n, House.NOP));
         }
-        holds("the size is ahead of all", 1, 17, Houses.filled(17, 0));
+        holds("the size is ahead of all", 1, 17, House.filled(17, 0));
     }
 
     private static void instructions() {
         holdsPadded("no INSTRUCTION", 2, 1, 144, 0);
         holdsPadded("RET", 2, 2, 144, 144, 195);
-        holds("beyond the end", 2, 12, Houses.with(Houses.filled(16, 144), 12, 184, 1, 2, 3));
-        holds("beyond the end, in the lead", 2, 15, Houses.with(Houses.filled(16, 144), 15, 15));
-        holds("the same at the first BUNDLE'S end", 3, 12, Houses.with(Houses.filled(32, 144), 12, 184, 1, 2, 3));
-        holds("the first place", 2, 3, Houses.with(Houses.with(Houses.filled(32, 144), 3, 0), 20, 195));
-        holds("a later BUNDLE", 2, 20, Houses.with(Houses.filled(32, 144), 20, 195));
+        holds("beyond the end", 2, 12, House.with(House.filled(16, 144), 12, 184, 1, 2, 3));
+        holds("beyond the end, in the lead", 2, 15, House.with(House.filled(16, 144), 15, 15));
+        holds("the same at the first BUNDLE'S end", 3, 12, House.with(House.filled(32, 144), 12, 184, 1, 2, 3));
+        holds("the first place", 2, 3, House.with(House.with(House.filled(32, 144), 3, 0), 20, 195));
+        holds("a later BUNDLE", 2, 20, House.with(House.filled(32, 144), 20, 195));
         holdsPadded("RET inside of another", 0, -1, 184, 195, 195, 195, 195);
     }
 
     private static void bundles() {
-        holds("two BYTES over the end", 3, 15, Houses.with(Houses.filled(32, 144), 15, 49, 192));
-        holds("just up to the end", 0, -1, Houses.with(Houses.filled(32, 144), 14, 49, 192));
-        holds("GO over the end is 3 ahead of 4", 3, 15, Houses.with(Houses.filled(32, 144), 15, 255, 224));
-        holds("CALL over the end is 3 ahead of 5", 3, 13, Houses.with(Houses.filled(32, 144), 13, 232, 0, 0, 0, 0));
-        holds("a BUNDLE begins anew", 2, 16, Houses.with(Houses.filled(32, 144), 16, 0));
+        holds("two BYTES over the end", 3, 15, House.with(House.filled(32, 144), 15, 49, 192));
+        holds("just up to the end", 0, -1, House.with(House.filled(32, 144), 14, 49, 192));
+        holds("GO over the end is 3 ahead of 4", 3, 15, House.with(House.filled(32, 144), 15, 255, 224));
+        holds("CALL over the end is 3 ahead of 5", 3, 13, House.with(House.filled(32, 144), 13, 232, 0, 0, 0, 0));
+        holds("a BUNDLE begins anew", 2, 16, House.with(House.filled(32, 144), 16, 0));
     }
 
     private static void pairs() {
@@ -74,18 +74,18 @@ final class PolicyTest {
         holdsPadded("GO of the STACK'S", 0, -1, 131, 228, 240, 255, 228);
         holdsPadded("the AND only inside of another", 4, 5, 184, 0, 131, 224, 240, 255, 224);
         holds("the AND in the BUNDLE ahead", 4, 16,
-            Houses.with(Houses.filled(32, 144), 13, 131, 224, 240, 255, 224));
-        holds("GOSUB", 0, -1, Houses.with(Houses.filled(16, 144), 11, 131, 231, 240, 255, 215));
-        holds("GOSUB alone", 4, 14, Houses.with(Houses.filled(16, 144), 14, 255, 215));
+            House.with(House.filled(32, 144), 13, 131, 224, 240, 255, 224));
+        holds("GOSUB", 0, -1, House.with(House.filled(16, 144), 11, 131, 231, 240, 255, 215));
+        holds("GOSUB alone", 4, 14, House.with(House.filled(16, 144), 14, 255, 215));
         holdsPadded("GOSUB alone, not LAST: the least", 4, 0, 255, 215);
     }
 
     private static void lastOnes() {
         holdsPadded("GOSUB not LAST", 5, 3, 131, 231, 240, 255, 215);
         holdsPadded("CALL not LAST", 5, 1, 144, 232, 0, 0, 0, 0);
-        holds("CALL LAST", 0, -1, Houses.with(Houses.filled(32, 144), 11, 232, 0, 0, 0, 0));
-        holds("5 ahead of a later 2", 5, 0, Houses.with(Houses.filled(16, 144), 0, 232, 0, 0, 0, 0, 195));
-        holds("2 ahead of a later 5", 2, 0, Houses.with(Houses.filled(16, 144), 0, 195, 232, 0, 0, 0, 0));
+        holds("CALL LAST", 0, -1, House.with(House.filled(32, 144), 11, 232, 0, 0, 0, 0));
+        holds("5 ahead of a later 2", 5, 0, House.with(House.filled(16, 144), 0, 232, 0, 0, 0, 0, 195));
+        holds("2 ahead of a later 5", 2, 0, House.with(House.filled(16, 144), 0, 195, 232, 0, 0, 0, 0));
     }
 
     /** JUMP of five BYTES at 0 to this address. */
@@ -110,29 +110,29 @@ final class PolicyTest {
         holdsPadded("BRANCH into itself", 6, 0, 116, 255);
         holdsPadded("long BRANCH itself", 0, -1, 15, 132, 250, 255, 255, 255);
         holdsPadded("long BRANCH astray", 6, 1, 144, 15, 132, 251, 255, 255, 255);
-        holds("CALL to the end", 6, 11, Houses.with(Houses.filled(16, 144), 11, 232, 0, 0, 0, 0));
-        holds("JUMP to another BUNDLE", 0, -1, Houses.with(Houses.filled(32, 144), 0, 235, 14));
+        holds("CALL to the end", 6, 11, House.with(House.filled(16, 144), 11, 232, 0, 0, 0, 0));
+        holds("JUMP to another BUNDLE", 0, -1, House.with(House.filled(32, 144), 0, 235, 14));
         holdsPadded("GOES nowhere, but is none", 0, -1, 106, 255);
     }
 
     private static void targetOrder() {
-        holds("6 only behind all others", 2, 30, Houses.with(Houses.with(Houses.filled(32, 144), 0, 235, 200), 30, 0));
-        holds("the first of them", 6, 2, Houses.with(Houses.filled(32, 144), 2, 235, 200, 235, 200));
+        holds("6 only behind all others", 2, 30, House.with(House.with(House.filled(32, 144), 0, 235, 200), 30, 0));
+        holds("the first of them", 6, 2, House.with(House.filled(32, 144), 2, 235, 200, 235, 200));
     }
 
     private static void whatStays() {
-        BundleHouse h = new BundleHouse();
+        House h = new House();
         h.plain(21, 0, 0, 0, 0, 0);
         DUE.is("build", h.build(), 0);
         h.run(5);
         h.walk(5);
-        Houses.tape(h, 195);
+        h.tape(195);
         DUE.is("a wrong TAPE", h.check(), 1);
         DUE.is("CODE stays", h.size(), 16);
         DUE.is("PROGRAM stays", h.place(2, 0), 1);
         DUE.is("RUN stays", h.state(false, 13), 2);
         DUE.is("WALK stays", h.state(true, 13), 2);
-        Houses.tape(h, Houses.filled(32, 144));
+        h.tape(House.filled(32, 144));
         DUE.is("a right TAPE", h.check(), 0);
         DUE.is("fault(0) of it", h.fault(0), 0);
         DUE.is("fault(1) of it", h.fault(1), -1);

@@ -45,8 +45,8 @@ final class ReckonTest {
     }
 
     /** A house that has C on or off, register 2 and the WORD at 100 left, register 3 and the WORD at 200 right. */
-    private static BundleHouse house(int left, int right, int c) {
-        BundleHouse h = new BundleHouse();
+    private static House house(int left, int right, int c) {
+        House h = new House();
         h.set(0, 2, left);
         h.set(0, 3, right);
         h.set(1, AT, left);
@@ -62,7 +62,7 @@ final class ReckonTest {
         for (int form = 2; form <= 6; form++) {
             boolean has = op <= 8 || op == 9 && (form == 2 || form == 4) || op == 11 && form <= 3;
             if (has) {
-                BundleHouse h = house(left, right, c);
+                House h = house(left, right, c);
                 h.plain(op, form, form == 4 ? 3 : 2, form == 2 ? 3 : NOWHERE, form == 3 ? 200 : AT, right);
                 ends(what + " FORM " + form, h, c, form == 4 || form == 6);
             }
@@ -72,11 +72,11 @@ final class ReckonTest {
     private static void one(int op, int left, int c) {
         reckon(op, left, 0, c);
         String what = "OP " + op + " of " + left + " with C " + c;
-        BundleHouse h = house(left, 0, c);
+        House h = house(left, 0, c);
         h.plain(op, 1, 2, 0, 0, 0);
         ends(what, h, c, false);
         if (op < 17) {
-            BundleHouse word = house(left, 0, c);
+            House word = house(left, 0, c);
             word.plain(op, 7, 0, NOWHERE, AT, 0);
             ends(what + " of a WORD", word, c, true);
         }
@@ -85,15 +85,15 @@ final class ReckonTest {
     private static void shift(int op, int left, int by, int c) {
         reckon(op, left, by, c);
         String what = "OP " + op + " of " + left + " by " + by + " with C " + c;
-        BundleHouse h = house(left, 0, c);
+        House h = house(left, 0, c);
         h.plain(op, 5, 2, 0, 0, by);
         ends(what, h, c, false);
-        BundleHouse word = house(left, 0, c);
+        House word = house(left, 0, c);
         word.plain(op, 6, 0, NOWHERE, AT, by);
         ends(what + " of a WORD", word, c, true);
     }
 
-    private static void ends(String what, BundleHouse h, int c, boolean inWord) {
+    private static void ends(String what, House h, int c, boolean inWord) {
         DUE.is(what + ": build", h.build(), 0);
         DUE.is(what + ": run", h.run(9), 1);
         DUE.is(what + ": walk", h.walk(9), 1);

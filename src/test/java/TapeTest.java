@@ -11,7 +11,7 @@ final class TapeTest {
     }
 
     private static void newObject() {
-        BundleHouse h = new BundleHouse();
+        House h = new House();
         DUE.is("NONE", BundleHouse.NONE, -1);
         DUE.is("new: size", h.size(), 0);
         DUE.is("new: code", h.code(0), -1);
@@ -25,7 +25,6 @@ final class TapeTest {
         DUE.is("new: data(walk)", h.data(true, 0), -1);
         DUE.refuses("new: decoded", "NoSuchElementException", () -> h.decoded(0, 0));
         DUE.refuses("new: run", "IllegalStateException", () -> h.run(1));
-        DUE.refuses("new: run without fuel", "IllegalStateException", () -> h.run(0));
         DUE.refuses("new: walk", "IllegalStateException", () -> h.walk(1));
         DUE.refuses("new: state(run)", "NoSuchElementException", () -> h.state(false, 0));
         DUE.refuses("new: state(walk)", "NoSuchElementException", () -> h.state(true, 0));
@@ -37,18 +36,22 @@ final class TapeTest {
     }
 
     private static void beginsWithNothing() {
-        BundleHouse h = Houses.holding(Houses.HALT);
+        House h = House.holding(House.HALT);
         h.run(1);
         for (int k = 0; k < 12; k++) {
             DUE.is("new: register or FLAG " + k, h.state(false, k), 0);
         }
         for (int a = 0; a < 1024; a++) {
+            if (h.callsLeft() == 0) {
+                h = House.holding(House.HALT);
+                h.run(1);
+            }
             DUE.is("new: data " + a, h.data(false, a), 0);
         }
     }
 
     private static void feedToTheBrim() {
-        BundleHouse h = new BundleHouse();
+        House h = new House();
         for (int k = 0; k < 55; k++) {
             DUE.is("feed " + k, h.feed(k, k, k, k, k), true);
         }
@@ -67,7 +70,7 @@ final class TapeTest {
     }
 
     private static void endCuts() {
-        BundleHouse h = new BundleHouse();
+        House h = new House();
         h.feed(0, 0, 0, 0, 0);
         DUE.is("end(21)", h.end(21), false);
         DUE.is("end(-1)", h.end(-1), false);
@@ -80,7 +83,7 @@ final class TapeTest {
     }
 
     private static void order() {
-        BundleHouse h = new BundleHouse();
+        House h = new House();
         h.feed(0xB8010203, 0x04BFF0F1, 0xF2F3684A, 0x4B4C4DF4, 0x12345678);
         DUE.is("end(16)", h.end(16), true);
         DUE.is("check", h.check(), 0);
@@ -96,7 +99,7 @@ final class TapeTest {
     }
 
     private static void behindEnd() {
-        BundleHouse h = new BundleHouse();
+        House h = new House();
         h.feed(0x90909090, -1, -1, -1, -1);
         h.end(4);
         h.feed(0x90909090, 0x90909090, 0xF4F4F4F4, 0, 0);

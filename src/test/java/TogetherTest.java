@@ -8,6 +8,8 @@ final class TogetherTest {
     private static final Due DUE = new Due();
     private static final int NO = 8;
     private static final int HOUSES = 6000;
+    private static final int WALK_FUEL = 700;
+    private static final int RUN_FUEL = 5000;
     private static final int[] FORMS_OF_TEST = {2, 4};
     private static final int[] STOPS_SEEN = new int[10];
 
@@ -15,17 +17,14 @@ final class TogetherTest {
 
     public static void main(String[] args) {
         for (int seed = 0; seed < HOUSES; seed++) {
-            Random chance = new Random(seed);
-            BundleHouse h = new BundleHouse();
-            int[][] items = draft(h, chance, 1 + chance.nextInt(seed % 10 == 0 ? 110 : 14));
+            House h = new House();
+            int[][] items = draft(h, seed);
             if (h.build() == 0) {
-                keepsPolicy(seed, h);
-                tellsItems(seed, h, items);
+                keepsPolicy(seed);
+                tellsItems(seed, items);
+                beside(seed, h);
             } else {
                 DUE.is("seed " + seed + ": only too big", h.fault(0), 4);
-            }
-            if (h.size() > 0) {
-                beside(seed, h);
             }
         }
         DUE.is("enough of them agreed on an end", agreed > HOUSES / 4, true);
@@ -36,7 +35,17 @@ final class TogetherTest {
         DUE.end();
     }
 
-    private static int[][] draft(BundleHouse h, Random chance, int n) {
+    /** The same one for the same seed: where one object's calls don't suffice, another one is made. */
+    private static House built(int seed) {
+        House h = new House();
+        draft(h, seed);
+        h.build();
+        return h;
+    }
+
+    private static int[][] draft(House h, int seed) {
+        Random chance = new Random(seed);
+        int n = 1 + chance.nextInt(seed % 10 == 0 ? 110 : 14);
         int[][] items = new int[n + 4][];
         for (int k = 0; k < 8; k++) {
             h.set(0, k, chance.nextInt(3) == 0 ? chance.nextInt() : chance.nextInt(60));
@@ -136,19 +145,23 @@ final class TogetherTest {
         }
     }
 
-    private static void keepsPolicy(int seed, BundleHouse h) {
+    private static void keepsPolicy(int seed) {
+        House h = built(seed);
         int[] bytes = new int[h.size()];
         for (int k = 0; k < bytes.length; k++) {
+            h = h.callsLeft() > 0 ? h : built(seed);
             bytes[k] = h.code(k);
         }
-        BundleHouse other = new BundleHouse();
-        Houses.tape(other, bytes);
+        House other = new House();
+        other.tape(bytes);
         DUE.is("seed " + seed + ": the POLICY is kept", other.check(), 0);
     }
 
-    private static void tellsItems(int seed, BundleHouse h, int[][] items) {
+    private static void tellsItems(int seed, int[][] items) {
+        House h = built(seed);
         int behind = 0;
-        for (int k = 0; k < items.length && k < 50; k++) {
+        for (int k = 0; k < items.length; k++) {
+            h = h.callsLeft() > 10 ? h : built(seed);
             int[] t = items[k];
             int at = h.place(0, k);
             String what = "seed " + seed + ", ITEM " + k;
@@ -166,9 +179,9 @@ final class TogetherTest {
         }
     }
 
-    private static void beside(int seed, BundleHouse h) {
-        int walked = h.walk(700);
-        int ran = h.run(5000);
+    private static void beside(int seed, House h) {
+        int walked = h.walk(WALK_FUEL);
+        int ran = h.run(RUN_FUEL);
         STOPS_SEEN[walked]++;
         DUE.is("seed " + seed + ": no STEP at no START", h.state(false, 16), 0);
         DUE.is("seed " + seed + ": a RUN is not BAD", ran == 5, false);
@@ -192,8 +205,18 @@ final class TogetherTest {
         for (int k = 0; k < h.state(true, 15); k++) {
             DUE.is("seed " + seed + ": output " + k, h.output(false, k), h.output(true, k));
         }
-        for (int a = 0; a < 1024; a++) {
-            DUE.is("seed " + seed + ": data " + a, h.data(false, a), h.data(true, a));
+        sameData(seed);
+    }
+
+    private static void sameData(int seed) {
+        int a = 0;
+        while (a < 1024) {
+            House h = built(seed);
+            h.walk(WALK_FUEL);
+            h.run(RUN_FUEL);
+            for (; a < 1024 && h.callsLeft() >= 2; a++) {
+                DUE.is("seed " + seed + ": data " + a, h.data(false, a), h.data(true, a));
+            }
         }
     }
 
@@ -201,8 +224,8 @@ final class TogetherTest {
     private static void stress() {
         for (int seed = 0; seed < 3000; seed++) {
             Random chance = new Random(seed);
-            BundleHouse h = new BundleHouse();
-            for (int call = 0; call < 512; call++) {
+            House h = new House();
+            while (h.callsLeft() >= 2) {
                 one(seed, h, chance);
             }
         }
@@ -213,7 +236,7 @@ final class TogetherTest {
         return chance.nextInt(4) == 0 ? some[chance.nextInt(some.length)] : chance.nextInt(12);
     }
 
-    private static void one(int seed, BundleHouse h, Random chance) {
+    private static void one(int seed, House h, Random chance) {
         int a = odd(chance);
         int b = odd(chance);
         int c = odd(chance);

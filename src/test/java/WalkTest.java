@@ -24,10 +24,9 @@ final class WalkTest {
     }
 
     private static void refused() {
-        BundleHouse h = new BundleHouse();
+        House h = new House();
         DUE.refuses("no PROGRAM", "IllegalStateException", () -> h.walk(5));
-        DUE.refuses("no PROGRAM, no fuel", "IllegalStateException", () -> h.walk(0));
-        BundleHouse checked = Houses.holding(244);
+        House checked = House.holding(244);
         DUE.refuses("CODE, but no PROGRAM", "IllegalStateException", () -> checked.walk(5));
         h.build();
         for (int fuel : new int[] {0, -1, 5001, Integer.MAX_VALUE, Integer.MIN_VALUE}) {
@@ -48,7 +47,7 @@ final class WalkTest {
 
     /** Where it is: never at a LABEL. */
     private static void positions() {
-        BundleHouse h = new BundleHouse();
+        House h = new House();
         h.set(0, 4, 100);
         h.flow(0, 0, 0);
         h.plain(21, 0, 0, 0, 0, 0);
@@ -67,7 +66,7 @@ final class WalkTest {
             DUE.is("STEPS", h.state(true, 13), fuel);
             DUE.is("state 14", h.state(true, 14), fuel == 6 ? 1 : 0);
         }
-        BundleHouse labels = new BundleHouse();
+        House labels = new House();
         labels.flow(0, 0, 0);
         labels.flow(0, 1, 1);
         DUE.is("only LABELS", labels.build(), 0);
@@ -77,7 +76,7 @@ final class WalkTest {
     }
 
     private static void halts() {
-        BundleHouse h = new BundleHouse();
+        House h = new House();
         h.plain(21, 0, 0, 0, 0, 0);
         h.plain(22, 0, 0, 0, 0, 0);
         h.plain(17, 1, 0, 0, 0, 0);
@@ -89,8 +88,8 @@ final class WalkTest {
     }
 
     /** CALL of a RETURN, so that register 1 and the FLAGS are UNKNOWN; then the INSTRUCTION; data word at 40. */
-    private static BundleHouse behindReturn() {
-        BundleHouse h = new BundleHouse();
+    private static House behindReturn() {
+        House h = new House();
         h.set(0, 4, 100);
         h.set(0, 1, 5);
         h.set(0, 2, 6);
@@ -98,7 +97,7 @@ final class WalkTest {
         return h;
     }
 
-    private static void withReturn(BundleHouse h) {
+    private static void withReturn(House h) {
         h.plain(22, 0, 0, 0, 0, 0);
         h.flow(0, 0, 0);
         h.flow(7, 0, 0);
@@ -106,7 +105,7 @@ final class WalkTest {
     }
 
     private static void reads(boolean want, int op, int form, int r, int x, int i) {
-        BundleHouse h = behindReturn();
+        House h = behindReturn();
         h.plain(op, form, r, x, 40, i);
         withReturn(h);
         String what = "OP " + op + " FORM " + form + " of " + r + ", " + x;
@@ -175,7 +174,7 @@ final class WalkTest {
     private static void knownAgain() {
         int[][] plains = {{8, 5, 1, 0, 0, 9, 9}, {8, 2, 1, 2, 0, 0, 6}, {8, 3, 1, DIRECT, 40, 0, 0}, {10, 3, 1, 2 + 16 * NO, 4, 0, 10}, {20, 1, 1, 0, 0, 0, 0}};
         for (int[] p : plains) {
-            BundleHouse h = behindReturn();
+            House h = behindReturn();
             h.plain(p[0], p[1], p[2], p[3], p[4], p[5]);
             h.plain(8, 2, 7, 1, 0, 0);
             withReturn(h);
@@ -184,14 +183,14 @@ final class WalkTest {
             DUE.is("and read", h.state(true, 7), p[6]);
             DUE.is("no more UNKNOWN", h.state(true, 17), 0);
         }
-        BundleHouse h = behindReturn();
+        House h = behindReturn();
         h.flow(0, 9, 1);
         h.flow(8, 9, 1);
         withReturn(h);
         DUE.is("ADDRESS gives register 1", h.walk(50), 1);
         DUE.is("it is", h.state(true, 1), 256 + h.place(1, 9));
         DUE.is("no more UNKNOWN", h.state(true, 17), 0);
-        BundleHouse other = behindReturn();
+        House other = behindReturn();
         other.plain(8, 5, 2, 0, 0, 9);
         withReturn(other);
         other.walk(50);
@@ -207,7 +206,7 @@ final class WalkTest {
     }
 
     private static void unknownFlags() {
-        BundleHouse at = behindReturn();
+        House at = behindReturn();
         withReturn(at);
         at.walk(2);
         for (int f = 8; f < 12; f++) {
@@ -224,7 +223,7 @@ final class WalkTest {
     }
 
     private static void branchBehind(int c, boolean unknown, int[] plain) {
-        BundleHouse h = behindReturn();
+        House h = behindReturn();
         if (plain.length > 0) {
             h.plain(plain[0], plain[1], plain[2], plain[3], plain[4], plain[5]);
         }
@@ -255,7 +254,7 @@ final class WalkTest {
                 branchBehind(c, c == 2 || c == 3 || c == 6 || c == 7, p);
             }
         }
-        BundleHouse h = behindReturn();
+        House h = behindReturn();
         h.plain(18, 1, 0, 0, 0, 0);
         withReturn(h);
         h.walk(50);
@@ -263,7 +262,7 @@ final class WalkTest {
         for (int f = 0; f < 4; f++) {
             DUE.is("behind DEC: FLAG " + f, h.state(true, 8 + f), want[f]);
         }
-        BundleHouse adc = behindReturn();
+        House adc = behindReturn();
         adc.plain(7, 5, 0, 0, 0, 1);
         adc.plain(2, 5, 2, 0, 0, 1);
         withReturn(adc);
@@ -273,7 +272,7 @@ final class WalkTest {
 
     private static void unknownBehindGo() {
         for (int sort = 5; sort <= 6; sort++) {
-            BundleHouse h = new BundleHouse();
+            House h = new House();
             h.set(0, 4, 100);
             h.set(0, 1, 5);
             h.flow(8, 0, 2);
@@ -293,12 +292,12 @@ final class WalkTest {
             DUE.is("STEPS", h.state(true, 13), 4);
         }
         for (int sort = 5; sort <= 6; sort++) {
-            BundleHouse h = behindReturn();
+            House h = behindReturn();
             h.flow(sort, 1, 0);
             withReturn(h);
             DUE.is("GO by what is UNKNOWN", h.walk(50), 7);
             DUE.is("STEPS", h.state(true, 13), 2);
-            BundleHouse other = behindReturn();
+            House other = behindReturn();
             other.set(0, 2, 0);
             other.flow(sort, 2, 0);
             withReturn(other);
@@ -311,7 +310,7 @@ final class WalkTest {
 
     /** A MARKED LABEL at the very beginning, by a register 1 that is known. */
     private static void backToTheFirst() {
-        BundleHouse h = new BundleHouse();
+        House h = new House();
         h.set(0, 1, 256);
         h.flow(0, 0, 1);
         h.plain(17, 1, 3, 0, 0, 0);
@@ -323,8 +322,8 @@ final class WalkTest {
     }
 
     /** ITEMS: 0 GO, 1 LABEL 0, 2 INC 7, 3 MARKED LABEL 1, 4 INC 6, 5 CALL 0, 6 INC 5, 7 SERVICE, 8 GOSUB, 9 HALT. */
-    private static BundleHouse landing(int sort) {
-        BundleHouse h = new BundleHouse();
+    private static House landing(int sort) {
+        House h = new House();
         h.set(0, 4, 200);
         h.flow(sort, 2, 0);
         h.flow(0, 0, 0);
@@ -342,7 +341,7 @@ final class WalkTest {
 
     private static void landings() {
         for (int sort = 5; sort <= 7; sort++) {
-            BundleHouse h = landing(sort);
+            House h = landing(sort);
             int[] good = {256 + h.place(1, 1), 256 + h.place(0, 5) + 5, 256 + h.place(0, 7) + 5, 256 + h.place(0, 8) + 5, 0, 16, 32, 48};
             int[] next = {256 + h.place(0, 4), 256 + h.place(0, 6), 256 + h.place(0, 8), 256 + h.place(0, 9), 0, 16, 32, 48};
             for (int to = -64; to < 1300; to++) {
@@ -356,11 +355,11 @@ final class WalkTest {
                 boolean lands = found >= 0 || behindGosub;
                 DUE.is("sort " + sort + " to " + to, h.walk(1), lands ? 0 : 9);
                 DUE.is("it is at", h.state(true, 12), behindGosub ? 256 + h.place(0, 2) : lands ? next[found] : 256 + h.place(0, 0));
-                if (to % 40 == 39) {
+                if (to % 20 == 0) {
                     h = landing(sort);
                 }
             }
-            BundleHouse far = landing(sort);
+            House far = landing(sort);
             for (int to : new int[] {Integer.MIN_VALUE, Integer.MAX_VALUE, 0x7FFFFFF0, -16}) {
                 far.set(0, 2, to);
                 far.set(1, 200, to);
@@ -370,7 +369,7 @@ final class WalkTest {
     }
 
     private static void lost() {
-        BundleHouse h = landing(5);
+        House h = landing(5);
         h.set(0, 2, 256 + h.place(1, 1) + 1);
         h.set(0, 1, 77);
         DUE.is("no bits are taken off", h.walk(9), 9);
@@ -379,7 +378,7 @@ final class WalkTest {
         DUE.is("its register stays", h.state(true, 2), 256 + h.place(1, 1) + 1);
         DUE.is("but a RUN gets there", h.run(2), 0);
         DUE.is("it is at", h.state(false, 12), 256 + h.place(1, 1));
-        BundleHouse back = landing(7);
+        House back = landing(7);
         back.set(1, 200, 999);
         back.set(0, 1, 77);
         DUE.is("RETURN", back.walk(9), 9);
@@ -389,7 +388,7 @@ final class WalkTest {
     }
 
     private static void services() {
-        BundleHouse h = new BundleHouse();
+        House h = new House();
         h.set(0, 4, 200);
         h.set(0, 2, 16);
         h.set(0, 3, 8);
@@ -414,7 +413,7 @@ final class WalkTest {
 
     private static void calls() {
         for (int sort : new int[] {3, 4}) {
-            BundleHouse h = new BundleHouse();
+            House h = new House();
             h.set(0, 4, 3);
             h.flow(0, 0, 0);
             h.plain(21, 0, 0, 0, 0, 0);
@@ -435,26 +434,26 @@ final class WalkTest {
 
     private static void orderOfStops() {
         // UNKNOWN ahead of DATA: C by ADC with a WORD that isn't there.
-        BundleHouse h = behindReturn();
+        House h = behindReturn();
         h.plain(2, 3, 2, DIRECT, 2000, 0);
         withReturn(h);
         DUE.is("UNKNOWN ahead of DATA", h.walk(50), 7);
-        BundleHouse push = behindReturn();
+        House push = behindReturn();
         push.plain(8, 5, 4, 0, 0, 0);
         push.plain(19, 1, 1, 0, 0, 0);
         withReturn(push);
         DUE.is("UNKNOWN ahead of DATA, PUSH", push.walk(50), 7);
-        BundleHouse gosub = landing(6);
+        House gosub = landing(6);
         gosub.set(0, 4, 0);
         gosub.set(0, 2, 5);
         DUE.is("LOST ahead of DATA, GOSUB", gosub.walk(50), 9);
         gosub.set(0, 2, 16);
         DUE.is("DATA, GOSUB", gosub.walk(50), 3);
         DUE.is("C is known still", gosub.state(true, 8), 0);
-        BundleHouse back = landing(7);
+        House back = landing(7);
         back.set(0, 4, 1021);
         DUE.is("no WORD: DATA, not LOST, RETURN", back.walk(50), 3);
-        BundleHouse service = landing(5);
+        House service = landing(5);
         service.set(0, 2, 48);
         service.set(0, 4, 1021);
         DUE.is("no WORD: DATA, not LOST, SERVICE", service.walk(50), 3);
@@ -463,7 +462,7 @@ final class WalkTest {
     }
 
     private static void fullOnes() {
-        BundleHouse h = new BundleHouse();
+        House h = new House();
         h.set(0, 4, 1024 - 4 * 101);
         h.set(0, 2, 16);
         for (int a = 1024 - 404; a < 1024; a += 4) {
@@ -481,14 +480,14 @@ final class WalkTest {
     }
 
     private static void fuel() {
-        BundleHouse h = new BundleHouse();
+        House h = new House();
         h.flow(0, 0, 0);
         h.flow(0, 1, 0);
         h.flow(1, 0, 0);
         h.build();
         DUE.is("FUEL", h.walk(5000), 0);
         DUE.is("STEPS", h.state(true, 13), 5000);
-        BundleHouse lost = landing(5);
+        House lost = landing(5);
         lost.set(0, 2, 5);
         lost.clear();
         lost.plain(21, 0, 0, 0, 0, 0);
