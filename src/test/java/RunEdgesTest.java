@@ -40,6 +40,7 @@ final class RunEdgesTest {
         dataNoneSuch();
         outputInside();
         outputNoneSuch();
+        upToTheLastCall();
         DUE.end();
     }
 
@@ -754,5 +755,33 @@ final class RunEdgesTest {
         House ran = looping();
         ran.run(13);
         DUE.refuses("a RUN'S is no WALK'S", NO_SUCH, () -> ran.output(true, 0));
+    }
+
+    private static void upToTheLastCall() {
+        DUE.sentence("What it is", "An object is used for at most 512 calls after it has been made");
+        House full = looping();
+        while (full.callsLeft() > 2) {
+            DUE.is("a RUN as dear as any", full.run(5000), 6);
+        }
+        DUE.is("call 511", full.walk(5000), 6);
+        DUE.is("call 512", full.output(true, 99), 100);
+        House built = new House();
+        built.nops(119);
+        built.flow(0, 0, 0);
+        while (built.callsLeft() > 2) {
+            DUE.is("a build as dear as any", built.build(), 0);
+        }
+        DUE.is("call 511", built.size(), 128);
+        DUE.is("call 512", built.run(200), 1);
+        House fed = new House();
+        int[] most = House.filled(1024, 144);
+        while (fed.callsLeft() > 60) {
+            fed.tape(most);
+            DUE.is("a check as dear as any", fed.check(), 0);
+        }
+        while (fed.callsLeft() > 1) {
+            fed.set(3, 0, 0);
+        }
+        DUE.is("call 512", fed.code(1023), 144);
     }
 }

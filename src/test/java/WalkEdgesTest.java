@@ -33,6 +33,7 @@ final class WalkEdgesTest {
         returnReadsNothing();
         unknownAsBaseOrIndex();
         unknownAsRightOrLeft();
+        unknownNotLookedAt();
         unknownInGoAndPush();
         unknownCarry();
         unknownConditions();
@@ -584,6 +585,18 @@ final class WalkEdgesTest {
             reads(true, op, 5, 1, 0, 32);
             reads(false, op, 5, 2, 1, 1);
         }
+    }
+
+    private static void unknownNotLookedAt() {
+        DUE.sentence("6", "(numbers that its FORM doesn't have are not looked at)");
+        reads(false, 21, 0, 1, 1, 1);
+        reads(false, 19, 8, 1, 1, 1);
+        reads(false, 20, 1, 2, 1, 1);
+        reads(false, 0, 5, 2, 1, 1);
+        reads(false, 14, 5, 2, 1 + 16, 1);
+        reads(false, 0, 6, 1, DIRECT, 1);
+        reads(false, 12, 7, 1, DIRECT, 1);
+        reads(false, 17, 1, 2, 1 + 16, 1);
     }
 
     private static void unknownInGoAndPush() {
