@@ -18,6 +18,8 @@ final class CodeEdgesTest {
         decodedAtNoStart();
         decodedWhereItHasNone();
         decodedStarts();
+        decodedStartsOfThisCode();
+        decodedEachInstruction();
         decodedOneByteNumbers();
         decodedFourByteNumbers();
         decodedMemory();
@@ -230,6 +232,75 @@ final class CodeEdgesTest {
         DUE.is("GO that was built", built.decoded(3, 7), 2);
         DUE.is("GOSUB that was built", built.decoded(14, 7), 2);
         DUE.is("NOP that was built", built.decoded(5, 7), 1);
+    }
+
+    /** Each CODE has a MOV where the one ahead had NOPS, or the other way round. */
+    private static void decodedStartsOfThisCode() {
+        DUE.sentence("12", "7: 0 it is no START, 1 it is");
+        int[] nops = House.filled(16, 144);
+        int[] mov = House.padded(244, 184, 144, 144, 144, 144);
+        House checked = House.holding(nops);
+        checked.tape(mov);
+        checked.check();
+        DUE.is("checked behind a checked one", checked.decoded(1, 7), 0);
+        checked.tape(nops);
+        checked.check();
+        DUE.is("and a START again", checked.decoded(1, 7), 1);
+        House built = House.holding(nops);
+        built.plain(8, 5, 0, 0, 0, 0x90909090);
+        built.build();
+        DUE.is("built behind a checked one", built.decoded(1, 7), 0);
+        DUE.is("the HALT behind it", built.decoded(5, 7), 1);
+        built.clear();
+        built.nops(9);
+        built.build();
+        DUE.is("built behind a built one", built.decoded(1, 7), 1);
+        built.tape(mov);
+        built.check();
+        DUE.is("checked behind a built one", built.decoded(4, 7), 0);
+    }
+
+    /** BYTES at this place of two BUNDLES of NOPS, and all that decoded() tells of them. */
+    private static void decodes(int place, int[] want, int... bytes) {
+        House h = House.holding(House.with(House.filled(32, 144), place, bytes));
+        int at = place + bytes.length - want[0];
+        for (int what = 0; what < want.length; what++) {
+            DUE.is("BYTES from " + bytes[0] + " on, what " + what, h.decoded(at, what), want[what]);
+        }
+    }
+
+    private static int[] w(int... whats) {
+        return whats;
+    }
+
+    private static void decodedEachInstruction() {
+        DUE.sentence("12", "what 0: how many BYTES, 1: OP, 2: FORM, 3: R, 4: X, 5: D, 6: I (0 where it has none), 7");
+        for (int r = 0; r < 8; r++) {
+            decodes(0, w(2, 27, 1, r, 0, 0, 0, 2), 131, 224 + r, 240, 255, 224 + r);
+            decodes(11, w(2, 28, 1, r, 0, 0, 0, 2), 131, 224 + r, 240, 255, 208 + r);
+            for (int op = 17; op <= 20; op++) {
+                decodes(3, w(1, op, 1, r, 0, 0, 0, 1), 64 + 8 * (op - 17) + r);
+            }
+            decodes(3, w(2, 12, 1, r, 0, 0, 0, 1), 247, 208 + r);
+            decodes(3, w(2, 13, 1, r, 0, 0, 0, 1), 247, 216 + r);
+            decodes(3, w(6, 8, 5, r, 0, 0, -2, 1), 199, 192 + r, 254, 255, 255, 255);
+        }
+        decodes(3, w(1, 22, 0, 0, 0, 0, 0, 1), 244);
+        decodes(3, w(2, 24, 8, 0, 0, 0, -3, 1), 235, 253);
+        decodes(3, w(5, 24, 8, 0, 0, 0, -8, 1), 233, 248, 255, 255, 255);
+        decodes(11, w(5, 26, 8, 0, 0, 0, -16, 1), 232, 240, 255, 255, 255);
+        decodes(3, w(5, 19, 8, 0, 0, 0, 128, 1), 104, 128, 0, 0, 0);
+        for (int c = 0; c < 16; c++) {
+            if (c != 10 && c != 11) {
+                decodes(3, w(2, 25, 8, c, 0, 0, 4, 1), 112 + c, 4);
+                decodes(3, w(6, 25, 8, c, 0, 0, 4, 1), 15, 128 + c, 4, 0, 0, 0);
+            }
+        }
+        House ret = House.holding(184, 195, 0, 0, 0);
+        int[] want = {1, 23, 0, 0, 0, 0, 0, 0};
+        for (int what = 0; what < want.length; what++) {
+            DUE.is("RET, what " + what, ret.decoded(1, what), want[what]);
+        }
     }
 
     private static void decodedOneByteNumbers() {

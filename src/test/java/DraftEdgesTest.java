@@ -28,6 +28,7 @@ final class DraftEdgesTest {
         flowAt120();
         flowRefusedChangesNothing();
         clearTellsHowMany();
+        clearLeavesNothingOfIt();
         clearLeavesTheRest();
         buildOfAnEmptyDraft();
         buildMakesBoth();
@@ -379,6 +380,46 @@ final class DraftEdgesTest {
         h.clear();
         h.flow(1, 5, 0);
         DUE.is("told nowhere", h.build(), 2);
+    }
+
+    /** What was built ahead of clear() leaves no trace in what is built behind it. */
+    private static void clearLeavesNothingOfIt() {
+        DUE.sentence("8", "THE DRAFT is empty");
+        int[][] flows = {{0, 0, 0}, {7, 0, 0}, {0, 1, 1}, {1, 0, 0}, {2, 1, 4}, {5, 6, 0}, {8, 1, 7}, {4, 3, 0}, {3, 0, 0}, {6, 2, 0}};
+        for (int shift = 0; shift < flows.length; shift++) {
+            House again = new House();
+            // Eleven BYTES each, and more of them than there will be ITEMS.
+            for (int k = 0; k < 40; k++) {
+                again.plain(7, 6, 0, 7 + 16 * 7, 200, 400);
+            }
+            again.build();
+            again.clear();
+            House fresh = new House();
+            for (int k = 0; k < flows.length; k++) {
+                int[] one = flows[(k + shift) % flows.length];
+                again.flow(one[0], one[1], one[2]);
+                fresh.flow(one[0], one[1], one[2]);
+            }
+            DUE.is("build", again.build(), fresh.build());
+            DUE.is("size", again.size(), fresh.size());
+            for (int k = 0; k < fresh.size() && fresh.callsLeft() > 20; k++) {
+                DUE.is("BYTE " + k, again.code(k), fresh.code(k));
+            }
+            for (int k = 0; k <= flows.length; k++) {
+                DUE.is("ITEM " + k, again.place(0, k), fresh.place(0, k));
+            }
+        }
+        House fewer = new House();
+        for (int k = 0; k < 15; k++) {
+            fewer.plain(17, 1, 0, 0, 0, 0);
+        }
+        fewer.build();
+        fewer.clear();
+        fewer.nops(1);
+        fewer.build();
+        for (int k = 1; k < 16; k++) {
+            DUE.is("HALTS behind fewer ITEMS", fewer.code(k), 244);
+        }
     }
 
     private static void clearLeavesTheRest() {

@@ -14,6 +14,7 @@ final class InstructionEdgesTest {
         wordsMayOverlap();
         leftAndRight();
         leftStays();
+        leaHasNoAccess();
         carryIn();
         shiftsByFiveBits();
         shiftedOut();
@@ -22,6 +23,8 @@ final class InstructionEdgesTest {
         pushEdges();
         popIntoTheStacks();
         popEdges();
+        targets();
+        targetsOfServices();
         calls();
         gosubAsItWas();
         goMasks();
@@ -166,6 +169,21 @@ final class InstructionEdgesTest {
         done(word, 9, 4, 3, DIRECT, 40, 0);
         DUE.is("TEST of a WORD", word.word(false, 40), MIN);
         DUE.is("its S", word.state(false, 10), 1);
+    }
+
+    private static void leaHasNoAccess() {
+        DUE.sentence("Terms", "LEA: R becomes the address (no access)");
+        for (int d : new int[] {MIN, -1, 0, 1020, 1021, 1024, MAX}) {
+            House h = with(4, 100);
+            h.set(1, 96, 7);
+            h.set(1, 1020, 9);
+            done(h, 10, 3, 2, DIRECT, d, 0);
+            DUE.is("LEA of " + d, h.state(false, 2), d);
+            DUE.is("it STOPS at the HALT behind it", h.state(false, 14), 1);
+            DUE.is("the STACK'S stays", h.state(false, 4), 100);
+            DUE.is("WORD 96 stays", h.word(false, 96), 7);
+            DUE.is("WORD 1020 stays", h.word(false, 1020), 9);
+        }
     }
 
     /** C by CMP 7, 1: on if register 7 is 0. */
@@ -313,6 +331,61 @@ final class InstructionEdgesTest {
             done(h, 20, 1, 2, 0, 0, 0);
             DUE.is("POP with " + stack, h.state(false, 14), is ? 1 : 3);
             DUE.is("the STACK'S", h.state(false, 4), is ? stack + 4 : stack);
+        }
+    }
+
+    /** HALTS, and these BYTES, which end at 160; a JUMP from 256 on goes to them. */
+    private static House endingAt160(int... bytes) {
+        int i = 160 - bytes.length - 5;
+        int[] code = House.with(House.filled(320, 244), 160 - bytes.length, bytes);
+        return House.holding(House.with(code, 0, 233, i & 255, i >> 8 & 255, i >> 16 & 255, i >>> 24));
+    }
+
+    private static void goesTo(String what, int want, House h) {
+        DUE.is(what, h.run(9), 1);
+        DUE.is(what + ": it is at", h.state(false, 12), want);
+        DUE.is(what + ": STEPS", h.state(false, 13), 3);
+    }
+
+    private static void targets() {
+        DUE.sentence("Terms", "(I of 24 to 26: how far the TARGET is behind the INSTRUCTION'S end.)");
+        int end = 256 + 160;
+        for (int i : new int[] {-128, -127, 0, 1, 127}) {
+            goesTo("JUMP by I1 " + i, end + i, endingAt160(235, i & 255));
+            goesTo("BRANCH by I1 " + i, end + i, endingAt160(113, i & 255));
+            goesTo("BRANCH by I1 that doesn't hold", end, endingAt160(112, i & 255));
+        }
+        for (int i : new int[] {-150, -129, -128, 0, 127, 128, 159}) {
+            int[] four = {i & 255, i >> 8 & 255, i >> 16 & 255, i >>> 24};
+            goesTo("JUMP by I4 " + i, end + i, endingAt160(233, four[0], four[1], four[2], four[3]));
+            goesTo("BRANCH by I4 " + i, end + i, endingAt160(15, 133, four[0], four[1], four[2], four[3]));
+            goesTo("BRANCH by I4 that doesn't hold", end, endingAt160(15, 132, four[0], four[1], four[2], four[3]));
+            House call = endingAt160(232, four[0], four[1], four[2], four[3]);
+            call.set(0, 4, 8);
+            goesTo("CALL by " + i, end + i, call);
+            DUE.is("it PUSHES", call.word(false, 4), end);
+        }
+        House round = endingAt160(235, 254);
+        DUE.is("JUMP to itself", round.run(5000), 0);
+        DUE.is("it is at", round.state(false, 12), end - 2);
+    }
+
+    private static void targetsOfServices() {
+        DUE.sentence("III", "a SERVICE (as the TARGET of JUMP, BRANCH or CALL)");
+        int[][] leads = {{233}, {15, 129}, {232}};
+        for (int sort = 0; sort < 3; sort++) {
+            for (int service = 0; service <= 48; service += 16) {
+                int i = service - 272;
+                int at = 12 - leads[sort].length;
+                House h = House.holding(House.with(House.with(House.filled(48, 144), at, leads[sort]), 12, i & 255, i >> 8 & 255, i >> 16 & 255, i >>> 24));
+                h.set(0, 4, 100);
+                h.set(1, 100, 288);
+                h.run(at + 1);
+                DUE.is("it is at", h.state(false, 12), service);
+                DUE.is("the STACK'S", h.state(false, 4), sort == 2 ? 96 : 100);
+                DUE.is("then", h.run(at + 2), service == 0 ? 2 : 0);
+                DUE.is("it is at", h.state(false, 12), service == 0 ? 0 : sort == 2 ? 272 : 288);
+            }
         }
     }
 

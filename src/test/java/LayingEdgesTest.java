@@ -23,6 +23,7 @@ final class LayingEdgesTest {
         pairsAreOnePiece();
         addresses();
         shortOrLong();
+        branchesOfEachCondition();
         becomesLongByOthers();
         staysLong();
         allAtOnce();
@@ -206,6 +207,10 @@ final class LayingEdgesTest {
         h.plain(22, 0, 0, 0, 0, 0);
         h.build();
         DUE.is("a HALT of the DRAFT'S own", h.size(), 16);
+        h.plain(17, 1, 0, 0, 0, 0);
+        h.build();
+        DUE.is("it is one BYTE", h.code(0), 244);
+        DUE.is("and the next ITEM is behind it", h.code(1), 64);
         House last = services(1);
         last.build();
         DUE.is("a BUNDLE of HALTS", last.size(), 32);
@@ -390,6 +395,28 @@ final class LayingEdgesTest {
             }
         }
         justBack();
+    }
+
+    private static void branchesOfEachCondition() {
+        DUE.sentence("IV", "JUMP, BRANCH: SHORT (with I1) or LONG");
+        for (int c = 0; c < 16; c++) {
+            if (c != 10 && c != 11) {
+                House near = drafting(f(2, 0, c), f(0, 0, 0));
+                near.build();
+                DUE.is("SHORT, c " + c, near.code(0), 112 + c);
+                DUE.is("its I", near.code(1), 0);
+                House far = drafting(f(2, 0, c));
+                for (int k = 0; k < 9; k++) {
+                    far.flow(4, 0, 0);
+                }
+                far.flow(0, 0, 0);
+                far.build();
+                int[] want = {15, 128 + c, 144 - 6, 0, 0, 0};
+                for (int k = 0; k < want.length; k++) {
+                    DUE.is("LONG, c " + c + ": BYTE " + k, far.code(k), want[k]);
+                }
+            }
+        }
     }
 
     /** 128 back is SHORT, 129 back is LONG. */

@@ -8,6 +8,7 @@ final class PolicyEdgesTest {
         sizes();
         sizeIsAheadOfAll();
         bundlesBeginAnew();
+        startsOfThisTapeAlone();
         firstPlaceThenLeast();
         noInstruction();
         beyondTheEnd();
@@ -67,6 +68,27 @@ final class PolicyEdgesTest {
         for (int at = 0; at < 32; at++) {
             DUE.is("START " + at, h.decoded(at, 7), at > 11 && at < 16 ? 0 : 1);
         }
+    }
+
+    /** Place 3 was a START of the TAPE ahead; of this one it is inside of a MOV. */
+    private static void startsOfThisTapeAlone() {
+        DUE.sentence("III", "In each, from its beginning on, one INSTRUCTION stands behind the other: these are its STARTS");
+        int[] inside = nops(32, 0, 235, 1, 184, 144, 144, 144, 144);
+        int[][] ahead = {House.filled(32, 144), House.filled(1024, 144), nops(32, 31, 0), House.padded(144, 235, 100)};
+        for (int k = 0; k < ahead.length; k++) {
+            House h = new House();
+            h.tape(ahead[k]);
+            h.check();
+            h.tape(inside);
+            DUE.is("behind TAPE " + k + ": check", h.check(), 6);
+            DUE.is("behind TAPE " + k + ": its place", h.fault(1), 0);
+        }
+        House pair = new House();
+        pair.tape(nops(16, 0, 131, 224, 240, 255, 224));
+        pair.check();
+        pair.tape(nops(16, 0, 235, 1));
+        DUE.is("where a PAIR was: check", pair.check(), 0);
+        DUE.is("it is a START", pair.decoded(3, 7), 1);
     }
 
     private static void firstPlaceThenLeast() {

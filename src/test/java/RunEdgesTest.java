@@ -13,6 +13,7 @@ final class RunEdgesTest {
         setWords();
         setInput();
         setAllAsAtFirst();
+        setRegistersAsAtFirst();
         setNoneSuch();
         setIsForLaterRuns();
         runWithoutCode();
@@ -178,6 +179,19 @@ final class RunEdgesTest {
             DUE.is("CODE stays", h.size() > 0, true);
             DUE.is("PROGRAM stays", h.place(2, 0), 6);
             DUE.is("DRAFT stays", h.clear(), 6);
+        }
+    }
+
+    private static void setRegistersAsAtFirst() {
+        DUE.sentence("14", "3: all is as at first");
+        House h = standing();
+        for (int k = 0; k < 8; k++) {
+            h.set(0, k, 1000 + k);
+        }
+        h.set(3, 0, 0);
+        h.run(1);
+        for (int k = 0; k < 8; k++) {
+            DUE.is("register " + k, h.state(false, k), 0);
         }
     }
 
